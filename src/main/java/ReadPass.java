@@ -19,7 +19,6 @@ public final class ReadPass {
     private final Road draft;
     private final Tape tape;
     private final Journey journey;
-    private final Plan plan;
     private final Sheet[] sheets;
     private final int[] trail;
     private boolean hasImage;
@@ -30,7 +29,6 @@ public final class ReadPass {
         draft = new Road();
         tape = new Tape();
         journey = new Journey();
-        plan = new Plan();
         sheets = new Sheet[SHEETS];
         for (int i = 0; i < SHEETS; i++) {
             sheets[i] = new Sheet();
@@ -103,7 +101,7 @@ public final class ReadPass {
             return BAD;
         }
         int was = road.goal;
-        road.setGoal(place);
+        road.goal = place;
         return was;
     }
 
@@ -129,7 +127,7 @@ public final class ReadPass {
         if (fault < 0) {
             return fault;
         }
-        draft.setGoal(road.goal);
+        draft.goal = road.goal;
         road.become(draft);
         return road.ways;
     }
@@ -190,21 +188,30 @@ public final class ReadPass {
 
     // ---- 3 what is best, what was
 
+    // Under the snow that shuts every doubtful way only clear ways lead home, and trying others
+    // costs steps; by clear ways alone one needs as few under any snow. So these decide.
+
     public int worst(int from) {
         if (!isPlace(from)) {
             return BAD;
         }
-        plan.make(road);
-        int steps = plan.stepsOf(0, from);
-        return steps >= Plan.NEVER ? NONE : steps;
+        int place = from;
+        int steps = 0;
+        while (place != road.goal && steps < PLACES) {
+            place = Net.towards(road.clearNet, place, road.goal);
+            if (place < 0) {
+                return NONE;
+            }
+            steps++;
+        }
+        return steps;
     }
 
     public int next(int from) {
         if (!isPlace(from)) {
             return BAD;
         }
-        plan.make(road);
-        int place = plan.firstGoal(road, from);
+        int place = from == road.goal ? -1 : Net.towards(road.clearNet, from, road.goal);
         return place < 0 ? NONE : place;
     }
 
@@ -454,12 +461,8 @@ public final class ReadPass {
         private int covered;
         private int stones;
         private int goal = PLACES - 1;
-        /** Who is next to whom by each way: bit 8a + b says that place b is next to a. */
-        private final long[] pairs = new long[WAYS];
-        /** The same by all ways. */
         private long net;
-        /** Grows with each change but of snow, so that a plan knows whether it still holds. */
-        private int changes;
+        private long clearNet;
 
         boolean isWay(int way) {
             return way >= 0 && way < ways;
@@ -516,13 +519,13 @@ public final class ReadPass {
             greater[way] = a < b ? b : a;
             joints[a * PLACES + b] = way + 1;
             joints[b * PLACES + a] = way + 1;
-            pairs[way] = 1L << (a * PLACES + b) | 1L << (b * PLACES + a);
-            net |= pairs[way];
+            net |= Net.pair(a, b);
             if (isDoubtful) {
                 doubtful |= 1 << way;
+            } else {
+                clearNet |= Net.pair(a, b);
             }
             ways++;
-            changes++;
             return way;
         }
 
@@ -531,18 +534,11 @@ public final class ReadPass {
                 sides[place] = side;
                 abouts[place] = way;
                 stones |= 1 << place;
-                changes++;
             }
         }
 
         void takeStone(int place) {
             stones &= ~(1 << place);
-            changes++;
-        }
-
-        void setGoal(int place) {
-            goal = place;
-            changes++;
         }
 
         void clear() {
@@ -554,13 +550,12 @@ public final class ReadPass {
             covered = 0;
             stones = 0;
             net = 0;
-            changes++;
+            clearNet = 0;
         }
 
         void become(Road other) {
             System.arraycopy(other.lesser, 0, lesser, 0, WAYS);
             System.arraycopy(other.greater, 0, greater, 0, WAYS);
-            System.arraycopy(other.pairs, 0, pairs, 0, WAYS);
             System.arraycopy(other.joints, 0, joints, 0, PLACES * PLACES);
             System.arraycopy(other.sides, 0, sides, 0, PLACES);
             System.arraycopy(other.abouts, 0, abouts, 0, PLACES);
@@ -570,16 +565,16 @@ public final class ReadPass {
             stones = other.stones;
             goal = other.goal;
             net = other.net;
-            changes++;
+            clearNet = other.clearNet;
         }
 
         /** What a way gives to the net. */
         long pairOf(int way) {
-            return isWay(way) ? pairs[way] : 0;
+            return isWay(way) ? Net.pair(lesser[way], greater[way]) : 0;
         }
     }
 
-    /** What readers of a kind make of a stone. */
+    /** What readers of a kind make of a stone; who can't read makes nothing of it. */
     private static final class Kind {
         static final int LITERAL = 0, DOUBTER = 1, CARTER = 3;
         static final int SHUT = 0, OPEN = 1, NOTHING = 2;
@@ -623,24 +618,21 @@ public final class ReadPass {
             look(road);
         }
 
+        /** Takes as many steps as told, or fewer if the journey ends ahead. */
         void goOn(Road road, int most) {
             for (int k = 0; k < most && ending == UNDER_WAY; k++) {
-                step(road);
+                int way = road.wayBetween(place, target);
+                steps++;
+                if (bitOf(snow, way) == 1) {
+                    believe(road, way, Kind.SHUT);
+                } else {
+                    int from = place;
+                    place = target;
+                    believe(road, way, Kind.OPEN);
+                    heed(road, from);
+                }
+                look(road);
             }
-        }
-
-        private void step(Road road) {
-            int way = road.wayBetween(place, target);
-            steps++;
-            if (bitOf(snow, way) == 1) {
-                believe(road, way, Kind.SHUT);
-            } else {
-                int from = place;
-                place = target;
-                believe(road, way, Kind.OPEN);
-                heed(road, from);
-            }
-            look(road);
         }
 
         /** Reads the stone of the place come to, if there is one. */
@@ -670,32 +662,39 @@ public final class ReadPass {
             } else if (!seen.add(place, believedShut)) {
                 ending = ROUND;
             } else {
-                target = towards(road.goal);
+                target = Net.towards(believedNet, place, road.goal);
                 ending = target < 0 ? LOST : UNDER_WAY;
             }
         }
+    }
+
+    /** Who is next to whom, as a long: bit 8a + b says that place b is next to a. */
+    private static final class Net {
+        static long pair(int a, int b) {
+            return 1L << (a * PLACES + b) | 1L << (b * PLACES + a);
+        }
 
         /** The place next to here from which the fewest ways lead to the goal; -1: none. */
-        private int towards(int goal) {
-            int near = byteOf(believedNet, place);
+        static int towards(long net, int here, int goal) {
+            int near = byteOf(net, here);
             int ring = 1 << goal;
             int reached = ring;
             for (int ways = 0; ways < PLACES && ring != 0; ways++) {
                 if ((ring & near) != 0) {
                     return leastOf(ring & near);
                 }
-                ring = around(ring) & ~reached;
+                ring = around(net, ring) & ~reached;
                 reached |= ring;
             }
             return -1;
         }
 
-        /** The places next to any of a set of places, by ways believed open. */
-        private int around(int places) {
+        /** The places next to any of a set of places. */
+        private static int around(long net, int places) {
             int all = 0;
             for (int p = 0; p < PLACES; p++) {
-                if ((places >>> p & 1) == 1) {
-                    all |= byteOf(believedNet, p);
+                if (bitOf(places, p) == 1) {
+                    all |= byteOf(net, p);
                 }
             }
             return all;
@@ -703,7 +702,7 @@ public final class ReadPass {
 
         private static int leastOf(int places) {
             int least = 0;
-            while (least < PLACES - 1 && (places >>> least & 1) == 0) {
+            while (least < PLACES - 1 && bitOf(places, least) == 0) {
                 least++;
             }
             return least;
@@ -740,144 +739,6 @@ public final class ReadPass {
             }
             words[word] |= bit;
             return true;
-        }
-    }
-
-    /** The steps home at worst, from each place, for all that one may know of the doubtful ways. */
-    private static final class Plan {
-        static final int NEVER = 100;
-
-        /** All that may be known: each of six ways hidden, known as open or as shut. */
-        private static final int LORES = 729;
-
-        /** For each lore the steps from place p as byte p. */
-        private final long[] steps = new long[LORES];
-        /** What one doubtful way counts in the number of a lore; 0 for a clear one. */
-        private final int[] weights = new int[WAYS];
-        /** Of the lore at hand. */
-        private int hidden;
-        private int knownShut;
-        private int madeFor = -1;
-
-        /** Makes all steps anew if the road has changed; the lore at hand is 0 then. */
-        void make(Road road) {
-            if (madeFor == road.changes) {
-                return;
-            }
-            int lores = weigh(road);
-            // what is found out makes the number of a lore greater: from the greatest down
-            for (int lore = lores - 1; lore >= 0; lore--) {
-                takeToHand(lore);
-                fill(road, lore);
-            }
-            madeFor = road.changes;
-        }
-
-        /** The steps from a place at worst if one knows what a lore says. */
-        int stepsOf(int lore, int place) {
-            return isFrom0(lore, LORES) ? byteOf(steps[lore], place) : NEVER;
-        }
-
-        /** Where one goes first who knows nothing; -1: nowhere. */
-        int firstGoal(Road road, int from) {
-            int least = NEVER;
-            int first = -1;
-            for (int to = 0; to < PLACES && from != road.goal; to++) {
-                int way = road.wayBetween(from, to);
-                int cost = way == Road.NO_WAY ? NEVER : costOf(road, 0, way, from, to);
-                if (cost < least) {
-                    least = cost;
-                    first = to;
-                }
-            }
-            return first;
-        }
-
-        /** Gives the doubtful ways their weights: how many lores there are. */
-        private int weigh(Road road) {
-            int weight = 1;
-            for (int way = 0; way < WAYS; way++) {
-                boolean counts = bitOf(road.doubtful, way) == 1 && weight < LORES;
-                weights[way] = counts ? weight : 0;
-                weight = counts ? weight * 3 : weight;
-            }
-            return weight;
-        }
-
-        private void takeToHand(int lore) {
-            hidden = 0;
-            knownShut = 0;
-            for (int way = 0; way < WAYS; way++) {
-                int weight = weights[way];
-                if (weight > 0) {
-                    int known = lore / weight % 3;
-                    hidden |= known == 0 ? 1 << way : 0;
-                    knownShut |= known == 2 ? 1 << way : 0;
-                }
-            }
-        }
-
-        private void fill(Road road, int lore) {
-            for (int p = 0; p < PLACES; p++) {
-                setSteps(lore, p, p == road.goal ? 0 : NEVER);
-            }
-            boolean better = true;
-            for (int round = 0; round <= PLACES && better; round++) {
-                better = false;
-                for (int way = 0; way < road.ways; way++) {
-                    better |= lower(road, lore, way, road.lesserOf(way), road.greaterOf(way));
-                    better |= lower(road, lore, way, road.greaterOf(way), road.lesserOf(way));
-                }
-            }
-        }
-
-        private void setSteps(int lore, int place, int count) {
-            if (isFrom0(lore, LORES)) {
-                int shift = 8 * place;
-                steps[lore] = steps[lore] & ~(255L << shift) | (long) count << shift;
-            }
-        }
-
-        /** Whether trying this way makes it fewer steps than known so far. */
-        private boolean lower(Road road, int lore, int way, int from, int to) {
-            int cost = costOf(road, lore, way, from, to);
-            boolean fewer = cost < stepsOf(lore, from);
-            if (fewer) {
-                setSteps(lore, from, cost);
-            }
-            return fewer;
-        }
-
-        /** The steps home at worst if one tries this way first. */
-        private int costOf(Road road, int lore, int way, int from, int to) {
-            if (bitOf(knownShut, way) == 1) {
-                return NEVER;
-            }
-            int rest;
-            if (bitOf(hidden, way) == 1) {
-                int ifOpen = lore + weightOf(way);
-                int ifShut = ifOpen + weightOf(way);
-                int stay = stepsOf(ifShut, from);
-                rest = Math.max(stay, onArrival(road, ifOpen, hidden & ~(1 << way), to));
-            } else {
-                rest = onArrival(road, lore, hidden, to);
-            }
-            return Math.min(NEVER, rest + 1);
-        }
-
-        /** The steps that are left at worst when one comes to a place and reads its stone. */
-        private int onArrival(Road road, int lore, int stillHidden, int place) {
-            int about = road.aboutOf(place);
-            if (!road.hasStone(place) || bitOf(stillHidden, about) == 0) {
-                return stepsOf(lore, place);
-            }
-            int ifOpen = lore + weightOf(about);
-            int ifShut = ifOpen + weightOf(about);
-            return Math.max(stepsOf(ifOpen, place), stepsOf(ifShut, place));
-        }
-
-        private int weightOf(int way) {
-            return isFrom0(way, WAYS) ? weights[way] : 0;
         }
     }
 
