@@ -100,6 +100,15 @@ public final class TapeTest {
         Due.is("no stone", x.of(1, 0), -4);
         Due.is("not joined any more", x.read(1, 2), -2);
         Due.is("the way is open", x.told(0, 3), 0);
+        Due.is("nothing leads home", x.worst(2), -4);
+        Due.is("nothing leads home", x.walk(2, 2, 1), 1);
+        x.home(7);
+        Due.typed(x, "07");
+        Due.is("pass", x.pass(), 1);
+        Due.typed(x, "01,12");
+        Due.is("pass", x.pass(), 2);
+        Due.is("the last pass does not lead home", x.worst(0), -4);
+        Due.is("the last pass does not lead home", x.walk(2, 0, 1), 1);
     }
 
     private static void faultsOfWays() {
