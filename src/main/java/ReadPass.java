@@ -720,7 +720,10 @@ public final class ReadPass {
 
         void forget() {
             for (int k = 0; k < count && k < WORDS; k++) {
-                words[used[k]] = 0;
+                int word = used[k];
+                if (word >= 0 && word < WORDS) {
+                    words[word] = 0;
+                }
             }
             count = 0;
         }

@@ -298,6 +298,9 @@ public final class JourneyEdgeTest {
         // one stays, and is where all is believed as it was
         x = Due.pass("23,02?,01,03?,12;1<2:d", 3, 10);
         walk(x, 0, ROUND, 10, 0, 0, 0, 1, 0, 0);
+        // six ways are found shut one after the other; then the lie of 1 and the truth of 2 change about
+        x = Due.pass("47?,41?,43?,42?,27?,13?,17,12,01,23,37,40;1<7:g,2<1:g", 7, 63);
+        walk(x, 0, ROUND, 127, 4, 4, 4, 4, 4, 0, 1, 2, 2, 1, 1, 2, 1);
     }
 
     private static void notRoundYet() {

@@ -361,20 +361,33 @@ public final class SheetEdgeTest {
 
     private static void sheetIsNew() {
         Due.says("A SHEET holds a new row of a LANE");
-        ReadPass x = Due.pass("10", 0, 0);
         for (int lane = 0; lane < 3; lane++) {
-            Due.row(x, 0, lane, 9, 9, 9, 9);
+            ReadPass x = Due.pass("10", 0, 0);
+            fill(x, lane);
             x.sheet(0, lane, 2);
-            x.sheet(0, lane, 4);
-            for (int i = 0; i < 4; i++) {
-                Due.is("item " + i + " is 0", x.track(2, 1, 0, lane, i, 1, 0), 1);
-            }
-            Due.row(x, 0, lane, 9, 9, 9, 9);
+            x.sheet(0, lane, 24);
+            holdsNoughts(x, lane);
+            fill(x, lane);
             x.drop(0);
-            x.sheet(0, lane, 4);
-            for (int i = 0; i < 4; i++) {
-                Due.is("item " + i + " is 0", x.track(2, 1, 0, lane, i, 1, 0), 1);
-            }
+            x.sheet(0, lane, 24);
+            holdsNoughts(x, lane);
+            fill(x, lane);
+            x.sheet(0, (lane + 1) % 3, 24);
+            holdsNoughts(x, (lane + 1) % 3);
+        }
+    }
+
+    private static void fill(ReadPass x, int lane) {
+        x.sheet(0, lane, 24);
+        for (int i = 0; i < 24; i++) {
+            Due.is("item " + i, x.item(0, lane, i, -1), 1);
+        }
+    }
+
+    /** From 1 one comes home to 0, so that a row of one nought is a track. */
+    private static void holdsNoughts(ReadPass x, int lane) {
+        for (int i = 0; i < 24; i++) {
+            Due.is("item " + i + " is 0", x.track(2, 1, 0, lane, i, 1, 0), 1);
         }
     }
 
